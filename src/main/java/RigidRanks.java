@@ -470,6 +470,17 @@ public final class RigidRanks {
             return closed;
         }
 
+        private boolean isClosed(int set) {
+            int rank = rankOf(set);
+            for (int bar = 0; bar < frame.bars; bar++) {
+                int bit = 1 << bar;
+                if ((set & bit) == 0 && rankOf(set | bit) == rank) {
+                    return false;
+                }
+            }
+            return true;
+        }
+
         final int spareBars() {
             int all = frame.allBars();
             int spares = 0;
@@ -528,7 +539,7 @@ public final class RigidRanks {
                 case SPANNING:
                     return isSpanning(set);
                 case CLOSED:
-                    return closureOf(set) == set;
+                    return isClosed(set);
                 case MEETING:
                     return meetsBasesBarely(set);
                 default:
@@ -831,8 +842,11 @@ public final class RigidRanks {
 
     /** SORT 2: RANKS by counting the BARS among each some JOINTS. */
     private static final class Anywhere extends Matroid {
+        private static final int SOME = 1 << MOST_JOINTS;
         /** For each some JOINTS, told as bits, the SET of BARS with both ends among them. */
-        private final int[] inside = new int[1 << MOST_JOINTS];
+        private final int[] inside = new int[SOME];
+        /** For each size of an INDEPENDENT SET, and each some JOINTS, how many BARS more these may have. */
+        private final int[] room = new int[(MOST_BARS + 1) * SOME];
 
         Anywhere(Frame frame) {
             super(frame);
@@ -845,6 +859,7 @@ public final class RigidRanks {
         void prepare() {
             for (int some = 0; some <= frame.allJoints(); some++) {
                 inside[some] = 0;
+                room[some] = mostInside(some);
                 for (int bar = 0; bar < frame.bars; bar++) {
                     if (((some >> frame.low[bar]) & (some >> frame.high[bar]) & 1) == 1) {
                         inside[some] |= 1 << bar;
@@ -854,11 +869,18 @@ public final class RigidRanks {
         }
 
         boolean raises(int size, int set, int bar) {
-            int more = set | 1 << bar;
-            for (int some = 0; some <= frame.allJoints(); some++) {
-                boolean hasBar = ((inside[some] >> bar) & 1) == 1;
-                if (hasBar && Integer.bitCount(more & inside[some]) > mostInside(some)) {
+            int all = frame.allJoints();
+            int ends = 1 << frame.low[bar] | 1 << frame.high[bar];
+            int now = size * SOME;
+            for (int some = ends; some <= all; some = (some + 1) | ends) {
+                if (room[now + some] == 0) {
                     return false;
+                }
+            }
+            if (bar + 1 < frame.bars) {
+                System.arraycopy(room, now, room, now + SOME, SOME);
+                for (int some = ends; some <= all; some = (some + 1) | ends) {
+                    room[now + SOME + some]--;
                 }
             }
             return true;
@@ -934,15 +956,18 @@ public final class RigidRanks {
             }
             long scale = Residues.inverse(get(row, column));
             for (int c = 0; c < columns; c++) {
-                lead[c] = Residues.times(cells[row * columns + c], scale);
+                long cell = cells[row * columns + c];
+                lead[c] = cell == 0 ? 0 : Residues.times(cell, scale);
             }
             for (int other = from; other < to; other++) {
                 int start = other * columns;
-                long times = cells[start + column];
-                for (int c = 0; c < columns; c++) {
-                    long cell = cells[start + c];
-                    boolean changes = times != 0 && lead[c] != 0;
-                    target.cells[start + c] = changes ? Residues.minus(cell, Residues.times(times, lead[c])) : cell;
+                long share = cells[start + column];
+                System.arraycopy(cells, start, target.cells, start, columns);
+                // Most numbers are 0, and products cost the most.
+                for (int c = 0; share != 0 && c < columns; c++) {
+                    if (lead[c] != 0) {
+                        target.cells[start + c] = Residues.minus(cells[start + c], Residues.times(share, lead[c]));
+                    }
                 }
             }
             return true;
