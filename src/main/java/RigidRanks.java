@@ -948,7 +948,7 @@ public final class RigidRanks {
             return -1;
         }
 
-        /** Rows from .. to - 1, less so much of one row that its lead column is 0, go into a sheet; false if it is 0. */
+        /** Rows from .. to - 1 go into a sheet, each less its share of one row; false if that one is 0. */
         boolean reduceInto(Sheet target, int row, int from, int to) {
             int column = leadColumn(row);
             if (column < 0) {
