@@ -156,30 +156,30 @@ public final class OracleTest {
     }
 
     private static void checkSort(Model model, int sort, Random random) {
-        RigidRanks x = model.make();
         if (sort == 1 && model.n > 5) {
-            checkRefused(model, x, sort);
+            checkRefused(model, model.make(), sort);
             return;
         }
+        Asked x = new Asked(model);
         Words words = new Words(model, sort);
         String name = model + " sort " + sort + " ";
         int all = words.all;
         for (int set = 0; set <= all; set++) {
-            due(name + "rank " + set, x.rank(sort, set), words.rank[set]);
-            due(name + "closure " + set, x.closure(sort, set), words.closure(set));
+            due(name + "rank " + set, x.now().rank(sort, set), words.rank[set]);
+            due(name + "closure " + set, x.now().closure(sort, set), words.closure(set));
         }
-        due(name + "rank beyond", x.rank(sort, all + 1), BAD);
-        due(name + "closure beyond", x.closure(sort, all + 1), BAD);
-        due(name + "rank below", x.rank(sort, -1), BAD);
+        due(name + "rank beyond", x.now().rank(sort, all + 1), BAD);
+        due(name + "closure beyond", x.now().closure(sort, all + 1), BAD);
+        due(name + "rank below", x.now().rank(sort, -1), BAD);
         checkPairs(name, words, x, random);
         checkKinds(name, words, x);
         checkPolynomial(name, words, x);
         if (sort < 2) {
             checkStresses(name, words, x);
-            due(name + "holds", x.holds(sort), words.holds() ? 1 : 0);
+            due(name + "holds", x.now().holds(sort), words.holds() ? 1 : 0);
         } else {
-            due(name + "holds", x.holds(sort), BAD);
-            due(name + "stressed", x.stressed(sort, all, 0), BAD);
+            due(name + "holds", x.now().holds(sort), BAD);
+            due(name + "stressed", x.now().stressed(sort, all, 0), BAD);
         }
     }
 
@@ -198,67 +198,67 @@ public final class OracleTest {
         due(model + " space", x.holds(sort), BAD);
     }
 
-    private static void checkPairs(String name, Words words, RigidRanks x, Random random) {
+    private static void checkPairs(String name, Words words, Asked x, Random random) {
         int n = words.model.n;
         for (int a = 0; a < n; a++) {
             for (int b = 0; b < n; b++) {
                 for (int turn = 0; turn < 6; turn++) {
                     int set = turn == 0 ? words.all : random.nextInt(words.all + 1);
                     int want = a == b ? BAD : words.implies(a, b, set) ? 1 : 0;
-                    due(name + "implied " + a + " " + b + " " + set, x.implied(words.sort, a, b, set), want);
+                    due(name + "implied " + a + " " + b + " " + set, x.now().implied(words.sort, a, b, set), want);
                 }
             }
         }
-        due(name + "lacks", x.lacks(words.sort), words.lacks());
-        due(name + "rigid", x.rigid(words.sort), words.isRigid() ? 1 : 0);
+        due(name + "lacks", x.now().lacks(words.sort), words.lacks());
+        due(name + "rigid", x.now().rigid(words.sort), words.isRigid() ? 1 : 0);
         int spare = 0;
         for (int i = 0; i < words.m; i++) {
             if (words.rank[words.all & ~(1 << i)] == words.rank[words.all]) {
                 spare |= 1 << i;
             }
         }
-        due(name + "spare", x.spare(words.sort), spare);
+        due(name + "spare", x.now().spare(words.sort), spare);
         List<Integer> clusters = words.clusters();
-        due(name + "cluster", x.cluster(words.sort, -1), NONE);
+        due(name + "cluster", x.now().cluster(words.sort, -1), NONE);
         for (int k = 0; k <= clusters.size(); k++) {
-            due(name + "cluster " + k, x.cluster(words.sort, k), k < clusters.size() ? clusters.get(k) : NONE);
+            due(name + "cluster " + k, x.now().cluster(words.sort, k), k < clusters.size() ? clusters.get(k) : NONE);
         }
     }
 
-    private static void checkKinds(String name, Words words, RigidRanks x) {
+    private static void checkKinds(String name, Words words, Asked x) {
         for (int what = -1; what <= 7; what++) {
             if (what < 0 || what > 6) {
-                due(name + "many " + what, x.many(words.sort, what), BAD);
-                due(name + "told " + what, x.told(words.sort, what, 0), BAD);
+                due(name + "many " + what, x.now().many(words.sort, what), BAD);
+                due(name + "told " + what, x.now().told(words.sort, what, 0), BAD);
                 continue;
             }
             List<Integer> sets = words.kind(what);
-            due(name + "many " + what, x.many(words.sort, what), sets.size());
-            due(name + "told " + what, x.told(words.sort, what, -1), NONE);
-            due(name + "told " + what, x.told(words.sort, what, sets.size()), NONE);
+            due(name + "many " + what, x.now().many(words.sort, what), sets.size());
+            due(name + "told " + what, x.now().told(words.sort, what, -1), NONE);
+            due(name + "told " + what, x.now().told(words.sort, what, sets.size()), NONE);
             int step = 1 + sets.size() / 60;
             for (int k = 0; k < sets.size(); k += step) {
-                due(name + "told " + what + " " + k, x.told(words.sort, what, k), sets.get(k));
+                due(name + "told " + what + " " + k, x.now().told(words.sort, what, k), sets.get(k));
             }
         }
     }
 
-    private static void checkPolynomial(String name, Words words, RigidRanks x) {
+    private static void checkPolynomial(String name, Words words, Asked x) {
         int[][] polynomial = words.polynomial();
         for (int i = -1; i <= 14; i++) {
             for (int j = -1; j <= 14; j++) {
                 int want = i < 0 || j < 0 || i > 13 || j > 13 ? 0 : polynomial[i][j];
-                due(name + "coefficient " + i + " " + j, x.coefficient(words.sort, i, j), want);
+                due(name + "coefficient " + i + " " + j, x.now().coefficient(words.sort, i, j), want);
             }
         }
     }
 
-    private static void checkStresses(String name, Words words, RigidRanks x) {
+    private static void checkStresses(String name, Words words, Asked x) {
         TreeSet<Integer> circuits = new TreeSet<>(words.kind(2));
         int done = 0;
         for (int set = 0; set <= words.all; set++) {
             if (!circuits.contains(set)) {
-                due(name + "stressed " + set, x.stressed(words.sort, set, 0), BAD);
+                due(name + "stressed " + set, x.now().stressed(words.sort, set, 0), BAD);
                 continue;
             }
             if (done++ > 150) {
@@ -267,10 +267,30 @@ public final class OracleTest {
             int[] signs = words.stressSigns(set);
             for (int bar = -1; bar <= words.m; bar++) {
                 int want = bar < 0 || bar >= words.m ? BAD : signs[bar] + 1;
-                due(name + "stressed " + set + " " + bar, x.stressed(words.sort, set, bar), want);
+                due(name + "stressed " + set + " " + bar, x.now().stressed(words.sort, set, bar), want);
             }
         }
-        due(name + "stressed beyond", x.stressed(words.sort, words.all + 1, 0), BAD);
+        due(name + "stressed beyond", x.now().stressed(words.sort, words.all + 1, 0), BAD);
+    }
+
+    /** Objects of one framework: a new one takes over before the last has been asked too often. */
+    private static final class Asked {
+        private static final int MOST_CALLS = 470;
+        private final Model model;
+        private RigidRanks object;
+        private int calls = 0;
+
+        Asked(Model model) {
+            this.model = model;
+        }
+
+        RigidRanks now() {
+            if (calls % MOST_CALLS == 0) {
+                object = model.make();
+            }
+            calls++;
+            return object;
+        }
     }
 
     // ---- a framework ----
