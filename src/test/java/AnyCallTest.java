@@ -28,12 +28,12 @@ public final class AnyCallTest {
     }
 
     public static void main(String[] args) {
-        for (int run = 0; run < 300; run++) {
+        for (int run = 0; run < 520; run++) {
             Random random = new Random(run);
             RigidRanks x = new RigidRanks();
             forget(1);
-            // Some steps ask twice, and an object may be asked 512 times.
-            for (int call = 0; call < 440; call++) {
+            // A step asks twice at most, and an object may be asked 512 times.
+            for (int call = 0; call < 256; call++) {
                 step(x, random);
             }
         }

@@ -111,7 +111,7 @@ public final class RulesTest {
             }
         }
         int sum = 0;
-        for (int i = 0; i < 490; i++) {
+        for (int i = 0; i < 434; i++) {
             int sort = i % 3;
             switch (i % 7) {
                 case 0: x.joint(i % 5, i % 9 - 4, i % 8 - 4, i % 7 - 3); break;
