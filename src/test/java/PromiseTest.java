@@ -3,11 +3,14 @@ public final class PromiseTest {
     private static final int PLANE = 0, SPACE = 1, ANYWHERE = 2;
     private static final int NONE = -1, BAD = -2, FULL = -3, THERE = -4;
     private static final int LEAST = Integer.MIN_VALUE, MOST = Integer.MAX_VALUE;
+    private static final int PROMISES = 23;
+    private static final int[] ASKED = new int[PROMISES + 1];
     private static int wrong = 0;
     private static int asked = 0;
 
     private static void due(int promise, String what, int got, int want) {
         asked++;
+        ASKED[promise]++;
         if (got != want) {
             wrong++;
             System.out.println("promise " + promise + ": " + what + " answered " + got + ", due is " + want);
@@ -22,11 +25,13 @@ public final class PromiseTest {
         unbar();
         sign();
         count();
-        endAndAt();
+        end();
+        at();
         rank();
         closure();
         implied();
-        rigidAndLacks();
+        rigid();
+        lacks();
         spare();
         many();
         told();
@@ -37,9 +42,19 @@ public final class PromiseTest {
         built();
         oneShape();
         badSorts();
+        everyPromise();
         System.out.println(asked + " answers asked, " + wrong + " not as due");
         if (wrong != 0) {
             System.exit(1);
+        }
+    }
+
+    private static void everyPromise() {
+        for (int promise = 1; promise <= PROMISES; promise++) {
+            if (ASKED[promise] == 0) {
+                wrong++;
+                System.out.println("promise " + promise + " has no test");
+            }
         }
     }
 
@@ -232,8 +247,9 @@ public final class PromiseTest {
         }
     }
 
-    private static void endAndAt() {
+    private static void end() {
         RigidRanks x = new RigidRanks();
+        due(8, "no bars yet", x.end(0, 0), BAD);
         x.begin(5);
         x.bar(4, 1);
         x.bar(2, 3);
@@ -245,10 +261,20 @@ public final class PromiseTest {
             due(8, "no bar", x.end(no, 0), BAD);
             due(8, "which", x.end(0, no), BAD);
         }
+        x.unbar();
+        due(8, "a bar that went", x.end(1, 0), BAD);
+    }
+
+    private static void at() {
+        RigidRanks x = new RigidRanks();
+        x.begin(5);
         x.joint(4, -2, 3, -4);
         due(9, "x", x.at(4, 0), -2);
         due(9, "y", x.at(4, 1), 3);
         due(9, "z", x.at(4, 2), -4);
+        for (int way = 0; way < 3; way++) {
+            due(9, "another joint", x.at(3, way), 0);
+        }
         for (int no : new int[] {-1, 5, LEAST, MOST}) {
             due(9, "no joint", x.at(no, 1), BAD);
             due(9, "way", x.at(4, no), BAD);
@@ -320,42 +346,55 @@ public final class PromiseTest {
         due(12, "at one place", framework(3, null, new int[0][]).implied(PLANE, 0, 1, 0), 1);
     }
 
-    private static void rigidAndLacks() {
+    private static void rigid() {
         RigidRanks x = square();
         due(13, "square", x.rigid(PLANE), 1);
         due(13, "anywhere", x.rigid(ANYWHERE), 1);
         due(13, "flat in space", x.rigid(SPACE), 1);
         due(13, "tetrahedron", tetrahedron().rigid(SPACE), 1);
-        due(14, "tetrahedron", tetrahedron().lacks(SPACE), 0);
         x.unbar();
         due(13, "five", x.rigid(PLANE), 1);
         x.unbar();
         due(13, "four", x.rigid(PLANE), 0);
-        due(14, "four", x.lacks(PLANE), 1);
-        due(14, "four anywhere", x.lacks(ANYWHERE), 1);
         due(13, "two triangles", twoTriangles().rigid(PLANE), 0);
-        due(14, "two triangles", twoTriangles().lacks(PLANE), 1);
         due(13, "on a curve", k33OnCurve().rigid(PLANE), 0);
-        due(14, "on a curve", k33OnCurve().lacks(PLANE), 1);
         due(13, "off it", k33OnCurve().rigid(ANYWHERE), 1);
         due(13, "on a line", onLine().rigid(PLANE), 1);
-        due(14, "on a line", onLine().lacks(PLANE), 0);
         due(13, "on a line, anywhere", onLine().rigid(ANYWHERE), 0);
-        due(14, "on a line, anywhere", onLine().lacks(ANYWHERE), 1);
         RigidRanks one = new RigidRanks();
         for (int sort = 0; sort < 3; sort++) {
             due(13, "one joint", one.rigid(sort), 1);
-            due(14, "one joint", one.lacks(sort), 0);
         }
         one.begin(7);
         due(13, "all at one place", one.rigid(PLANE), 1);
-        due(14, "all at one place", one.lacks(PLANE), 0);
         due(13, "anywhere", one.rigid(ANYWHERE), 0);
+        one.begin(2);
+        due(13, "no bar", one.rigid(ANYWHERE), 0);
+        one.bar(0, 1);
+        due(13, "one bar", one.rigid(ANYWHERE), 1);
+    }
+
+    private static void lacks() {
+        due(14, "tetrahedron", tetrahedron().lacks(SPACE), 0);
+        RigidRanks x = square();
+        due(14, "square", x.lacks(PLANE), 0);
+        x.unbar();
+        x.unbar();
+        due(14, "four", x.lacks(PLANE), 1);
+        due(14, "four anywhere", x.lacks(ANYWHERE), 1);
+        due(14, "two triangles", twoTriangles().lacks(PLANE), 1);
+        due(14, "on a curve", k33OnCurve().lacks(PLANE), 1);
+        due(14, "on a line", onLine().lacks(PLANE), 0);
+        due(14, "on a line, anywhere", onLine().lacks(ANYWHERE), 1);
+        RigidRanks one = new RigidRanks();
+        for (int sort = 0; sort < 3; sort++) {
+            due(14, "one joint", one.lacks(sort), 0);
+        }
+        one.begin(7);
+        due(14, "all at one place", one.lacks(PLANE), 0);
         due(14, "anywhere", one.lacks(ANYWHERE), 11);
         one.begin(2);
         due(14, "two joints", one.lacks(ANYWHERE), 1);
-        one.bar(0, 1);
-        due(13, "one bar", one.rigid(ANYWHERE), 1);
         RigidRanks space = framework(5, new int[][] {{0, 0, 0}, {1, 0, 0}, {0, 1, 0}, {0, 0, 1}, {1, 2, 3}}, new int[0][]);
         due(14, "five in space", space.lacks(SPACE), 9);
         due(14, "five in the plane", space.lacks(PLANE), 7);

@@ -69,6 +69,9 @@ public final class RulesTest {
         for (Class<?> inside : c.getDeclaredClasses()) {
             must(Modifier.isStatic(inside.getModifiers()), inside + " is static");
             must(inside.getDeclaredFields().length <= 20, inside + " has few fields");
+            for (Method method : inside.getDeclaredMethods()) {
+                must(method.getParameterCount() <= 7, method + " takes seven numbers at most");
+            }
         }
         must(c.getDeclaredClasses().length < 12, "few classes");
         must(RigidRanks.NONE == -1 && RigidRanks.BAD == -2 && RigidRanks.FULL == -3 && RigidRanks.THERE == -4, "constants");
@@ -89,6 +92,22 @@ public final class RulesTest {
         for (String pattern : LEFT_OUT) {
             must(!java.util.regex.Pattern.compile(pattern, java.util.regex.Pattern.MULTILINE).matcher(code).find(),
                     "the source is without " + pattern);
+        }
+        shortMethods(text.split("\n"));
+    }
+
+    /** A method begins and ends at its own indentation: 4 in the class, 8 in a class inside. */
+    private static void shortMethods(String[] lines) {
+        for (String indent : new String[] {"    ", "        "}) {
+            int begun = -1;
+            for (int i = 0; i < lines.length; i++) {
+                if (lines[i].matches(indent + "\\w.*\\) \\{")) {
+                    begun = i;
+                } else if (begun >= 0 && lines[i].equals(indent + "}")) {
+                    must(i - begun < 60, "few lines behind " + lines[begun].trim());
+                    begun = -1;
+                }
+            }
         }
     }
 
